@@ -412,6 +412,11 @@ public final class PromiseTests {
         dueProgram("skip od", 6);
         dueProgram("skip?", 5);
         dueProgram("Skip", 1);
+        dueProgram("ship", 1);
+        dueProgram("akip", 1);
+        dueProgram("ski", 1);
+        dueProgram("skips", 1);
+        dueProgram("of a=b then skip else skip fi", 1);
     }
 
     private static void promise5Limits() {
@@ -445,6 +450,10 @@ public final class PromiseTests {
         String full = times(19, "skip ; ") + "skip";
         dueProgram(full + times(400 - full.length(), " "), 0);
         dueProgram("skip ;" + times(394, " "), 401);
+        dueProgram(times(400, ";"), 1);
+        dueProgram("{" + times(399, "("), 12);
+        dueProgram(times(400, "a"), 1);
+        dueProgram("a:=" + times(397, "9"), 4);
     }
 
     private static void promise6Conditions() {
@@ -490,6 +499,10 @@ public final class PromiseTests {
         due("true =", about(desk("a=0&a=1", "0=1", "skip"), 0), "0 0 2 3 -1");
         due("! of =", about(desk("!a=0", "a<0", "skip"), 0), "0 0 2 2 1");
         due("true |", about(desk("a<0|a>0", "a<0", "skip"), 0), "0 0 2 3 1");
+        due("true | with a #", about(desk("a=0|b#0", "0=1", "skip"), 0), "0 0 6 3 0");
+        due("rows asked first", desk("a#0", "a<0", "skip").about(0, 2), 2);
+        due("atoms asked first", desk("a#0", "a<0", "skip").about(0, 3), 2);
+        due("the first row asked first", desk("a#0", "a<0", "skip").about(0, 4), 1);
         due("false &", about(desk("a>=0", "a>=0&a>0", "skip"), 0), "0 0 2 3 1");
         due("p before q", about(desk("(a=1|a=2)&(b=1|b=2)", "a=1|b=1", "skip"), 0), "0 0 16 6 15");
         due("both together", about(desk("(a=1|a=2)&(b=1|b=2)", "a=1&b=1", "skip"), 0), "0 0 16 6 7");
