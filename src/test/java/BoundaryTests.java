@@ -1049,17 +1049,17 @@ public final class BoundaryTests {
     // ---- Rows and counterexamples
 
     /** Each assert of n atoms has 2 to the n rows to be false; those of asserts in a row are added. */
-    private static String asserts(int... atoms) {
+    private static String asserts(String atom, int... atoms) {
         StringBuilder all = new StringBuilder();
         for (int n : atoms) {
-            all.append("assert ").append(joined(n, "0=0", "|")).append(";");
+            all.append("assert ").append(joined(n, atom, "|")).append(";");
         }
         return all.append("skip").toString();
     }
 
     private static void rowsAre5000AtMost() {
         sentence = "With more than 5000 rows it is UNKNOWN whether it is valid";
-        Desk most = desk("a#b&a#c&a#d", "0<1", asserts(8, 8, 6, 5, 4));
+        Desk most = desk("a#b&a#c&a#d", "0<1", asserts("0=0", 8, 8, 6, 5, 4));
         due("5000 rows", most.about(0), "0 0 5000 35 -1");
         due("5000 rows", most.valid(0), 1);
         due("5000 rows", most.proved(), true);
@@ -1069,7 +1069,7 @@ public final class BoundaryTests {
         due("5000 rows", most.proved(), false);
         due("5000 rows", most.counters(0), "0 -1 -1 -1 0 0 0 0 0 0");
 
-        Desk over = desk("a=a|a=a|a=a", "0=0&0<1", asserts(8, 8, 8, 8, 8, 8, 7));
+        Desk over = desk("a=a|a=a|a=a", "0=0&0<1", asserts("0=0", 8, 8, 8, 8, 8, 8, 7));
         due("5001 rows", over.about(0), "0 0 5001 60 -1");
         due("5001 rows", over.valid(0), -1);
         due("5001 rows", over.proved(), false);
@@ -1081,8 +1081,15 @@ public final class BoundaryTests {
         due("3334 rows", over.proved(), true);
         due("more again", over.pre("a=a|a=a|a=a"), 0);
         due("5001 rows", over.valid(0), -1);
+        due("row 0 would fit", over.program(asserts("a=b", 8, 8, 8, 8, 8, 8, 7)), 0);
+        due("unknown all the same", over.about(0), "0 0 5001 60 -1");
+        due("unknown all the same", over.valid(0), -1);
+        dueThrow("unknown all the same", STATE, () -> over.counter(0, 0));
+        due("fewer", over.pre("a=a|a=a"), 0);
+        due("it fits", over.about(0), "0 0 3334 59 0");
+        due("it fits", over.counters(0), "-1 0 0 0 0 0 0 0 0 0");
 
-        Desk more = desk("a#b&a#b&a#b&(a#b&a#b|0=0)|0=0", "0=0", asserts(6, 5, 4, 3));
+        Desk more = desk("a#b&a#b&a#b&(a#b&a#b|0=0)|0=0", "0=0", asserts("0=0", 6, 5, 4, 3));
         due("5002 rows", more.about(0), "0 0 5001 26 -1");
         due("5002 rows", more.valid(0), -1);
         Desk many = desk("0=0", joined(8, "a=b", "|"), joined(4, "if a<b then a:=a+1 else b:=b+1 fi", ";"));
@@ -1418,7 +1425,7 @@ public final class BoundaryTests {
         dueThrow("no condition, a variable", INDEX, () -> desk.counter(2, 0));
         dueThrow("no condition, no variable", INDEX, () -> desk.counter(2, 10));
         dueThrow("no condition, no what", INDEX, () -> desk.about(2, 5));
-        Desk unknown = desk("a=a|a=a|a=a", "0=0&0<1", asserts(8, 8, 8, 8, 8, 8, 7));
+        Desk unknown = desk("a=a|a=a|a=a", "0=0&0<1", asserts("0=0", 8, 8, 8, 8, 8, 8, 7));
         dueThrow("unknown, a variable", STATE, () -> unknown.counter(0, 9));
         dueThrow("unknown, no variable", STATE, () -> unknown.counter(0, 10));
         dueThrow("no condition beside an unknown one", INDEX, () -> unknown.counter(1, 0));
